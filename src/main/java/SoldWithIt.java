@@ -7,6 +7,9 @@ public final class SoldWithIt {
     /** Added to a refusal where any number may be an answer. */
     private static final int ANY = -100000;
 
+    /** What get() answers where there is no item. */
+    private static final int LEAST = -2147483648;
+
     private static final int NULL = 1, INDEX = 2, CAST = 3, STORE = 4, SIZE = 5;
     private static final int WITHIN = 1, CHAIN = 2, ONCE = 4;
     private static final int LOCKED = 2;
@@ -320,7 +323,8 @@ public final class SoldWithIt {
             return BAD;
         }
         int fewest = NONE;
-        for (int guests = wanted; guests <= everybody(); guests++) {
+        int all = everybody();
+        for (int guests = wanted; guests <= all; guests++) {
             boolean fits = (guests & wanted) == wanted && (guests >> host & 1) == 0;
             boolean fewer = fewest == NONE || Integer.bitCount(guests) < Integer.bitCount(fewest);
             if (fits && fewer && (comers(host, guests) & wanted) == wanted) {
@@ -415,12 +419,12 @@ public final class SoldWithIt {
 
     public int get(int s, int form, int i) {
         if (noSheet(s) || noForm(form)) {
-            return Integer.MIN_VALUE;
+            return LEAST;
         }
         int finding = sheets[s].findingAt(form, i);
         if (finding != 0) {
             found(finding);
-            return Integer.MIN_VALUE;
+            return LEAST;
         }
         return sheets[s].items[i];
     }
@@ -629,7 +633,7 @@ public final class SoldWithIt {
         return form < 0 || form > 2;
     }
 
-    /** SPOTS are numbered from the street (0) on, so that the street is ahead of HOUSE 0. */
+    /** A SPOT is 0 for the street, else a HOUSE's number and one: the street is ahead of HOUSE 0. */
     private static int houseAt(int spot) {
         return spot == 0 ? NONE : spot - 1;
     }

@@ -37,6 +37,9 @@ public final class ModelTest {
         int houses = numbers.below(9);
         int people = numbers.below(3) == 0 ? numbers.below(9) : numbers.below(5);
         tell(houses, people);
+        if (numbers.below(2) == 0) {
+            tastes();
+        }
         for (int i = 0; i < CALLS && !wrong; i++) {
             if (numbers.below(40) == 0) {
                 tell(numbers.below(6), numbers.below(6));
@@ -59,6 +62,16 @@ public final class ModelTest {
         for (int p = 0; p < people; p++) {
             type(1, "ogl".charAt(numbers.below(3)));
             type(1, numbers.below(7) == 0 ? '-' : '0' + numbers.below(Math.min(8, houses + 1)));
+        }
+    }
+
+    private void tastes() {
+        for (int a = 0; a < 8; a++) {
+            for (int b = 0; b < 8; b++) {
+                int w = taste(), l = taste();
+                due("worth(" + a + ", " + b + ", " + w + ")", x.worth(a, b, w), plain.worth(a, b, w));
+                due("like(" + a + ", " + b + ", " + l + ")", x.like(a, b, l), plain.like(a, b, l));
+            }
         }
     }
 

@@ -241,6 +241,9 @@ public final class PromiseTest {
         due("read(2) of one item", x.read(2), 0);
         x.sheet(2, 0, 0);
         due("read(2) of none", x.read(2), 0);
+        x.undo();
+        fill(x, 2, 2, 1, 1);
+        due("read(2) of one sale", x.read(2), 1);
     }
 
     private static void stroke() {
@@ -264,6 +267,9 @@ public final class PromiseTest {
         due("length(2) without ONCE", x.length(2), 1);
         keepersBehind(x, 3, 2, 3, 2, 3);
         timesBehind(x, 3, 2, 1, 0, 0);
+        timesBehind(x, 0, 0, 0, 0, 0);
+        due("length(0) of three", x.length(0), 3);
+        due("length(1) of three", x.length(1), 1);
         due("count(6)", x.count(6), 3);
         x.law(0, 0);
         keepersBehind(x, 3, 0, 1, 2, 3);
@@ -276,6 +282,12 @@ public final class PromiseTest {
         due("length(0) without CHAIN", x.length(0), 1);
         ownersBehind(x, 1, 0, 3, 2, 0);
         keepersBehind(x, 1, 3, 1, 2, 3);
+
+        x.undo();
+        ownersBehind(x, 0, 0, 1, 2, 0);
+        due("count(6) behind an undone sale", x.count(6), 0);
+        x.sale(0, 3);
+        ownersBehind(x, 1, 3, 1, 2, 0);
 
         // The chain goes on through houses of those sold by it; the buyer in them is not sold.
         x = street("00;11;20;30", "o1o2o3o0");
@@ -335,6 +347,9 @@ public final class PromiseTest {
         due("whose(0, 0), an owner who is not there", x.whose(0, 0), 7);
         x.sale(1, 1);
         due("length, what an absent one owns is not sold with anybody", x.length(0), 1);
+
+        x = street("", "o-o-o-o-o-o-o-o-");
+        keepersBehind(x, 0, 0, 1, 2, 3, 4, 5, 6, 7);
     }
 
     private static void ownersBehind(SoldWithIt x, int k, int... owners) {
@@ -433,6 +448,19 @@ public final class PromiseTest {
         x = street("", "o-");
         due("best(0, -1) without houses", x.best(0, -1), 0);
         due("best(0, 0) without houses", x.best(0, 0), -1);
+        // Only in house 0 is anybody sold to 1, and only 0 is worth something.
+        x = street("01;02", "o-o-");
+        x.sale(0, 1);
+        due("best(1, -1): 0 elsewhere, or in it: all houses", x.best(1, -1), 3);
+        x.worth(1, 0, -9);
+        due("best(1, -1): rather one house", x.best(1, -1), 1);
+        due("best(1, 0)", x.best(1, 0), -1);
+        x = street("71;72", "o-o-");
+        x.sale(0, 0);
+        x.worth(0, 1, 3);
+        due("best(0, -1): with 1", x.best(0, -1), 4);
+        due("best(0, 0)", x.best(0, 0), -1);
+        due("best(0, 1): the second row", x.best(0, 1), 0);
     }
 
     private static void restingPlaces() {
@@ -455,6 +483,13 @@ public final class PromiseTest {
         due("rest(0)", x.rest(0), -1);
         due("rest(2)", x.rest(2), -100002);
         due("rest(-3)", x.rest(-3), -100002);
+
+        x.undo();
+        due("rest(-2) without the sale", x.rest(-2), 3);
+        x.sale(0, 1);
+        x.sale(1, 1);
+        due("rest(-2): 0 in the street", x.rest(-2), 1);
+        due("rest(0)", x.rest(0), -1);
 
         x = chase();
         due("rest(-2): none", x.rest(-2), 0);
@@ -549,6 +584,7 @@ public final class PromiseTest {
         due("change(1, 0)", x.change(1, 0), 1);
         due("change(0, 2), of one owner", x.change(0, 2), 0);
         due("change(1, 2): like values are not more", x.change(1, 2), 0);
+        due("change(2, 1), likewise", x.change(2, 1), 0);
         x.worth(0, 2, 1);
         due("change(1, 2)", x.change(1, 2), 1);
         due("change(0, 0)", x.change(0, 0), -2);
@@ -626,6 +662,10 @@ public final class PromiseTest {
         x = street("00;01;12", "o0o-o-");
         fill(x, 0, 0, 2, 2, 1);
         due("should(0)", x.should(0), 1);
+        // The last of all ways to own four houses.
+        x = street("00;11;22;33", "o-o-o-o-o-o-o-o-");
+        fill(x, 0, 0, 7, 7, 7, 7);
+        due("should(0): all to 7", x.should(0), 4);
     }
 
     private static void dinners() {
@@ -673,6 +713,15 @@ public final class PromiseTest {
         x.like(1, 4, 2);
         due("invite(0, 2): the fewest", x.invite(0, 2), 18);
         due("invite(0, 10)", x.invite(0, 10), 14);
+        // The host may not be asked to be liked twice.
+        x = street("", "o-o-o-");
+        x.like(1, 0, 2);
+        x.like(1, 2, -3);
+        due("invite(0, 6)", x.invite(0, 6), -1);
+        // Guest 0 counts, too.
+        x.like(1, 0, -2);
+        x.like(1, 2, 1);
+        due("come(2, 3)", x.come(2, 3), 1);
     }
 
     private static void whereAllWere() {
@@ -729,6 +778,7 @@ public final class PromiseTest {
         due("bed(): told in no house is the street", x.bed(), 0);
         typeAll(x, 1, "o-o-");
         due("were(-1) of four", x.were(-1), 54);
+        due("bed() of four", x.bed(), 0);
         typeAll(x, 1, "o-");
         due("bed() of five", x.bed(), -4);
         due("were(-1) of five", x.were(-1), -4);
@@ -829,6 +879,8 @@ public final class PromiseTest {
         due("copy(0, 0, 1, 0, 3), too many for 1", x.copy(0, 0, 1, 0, 3), -12);
         due("copy(1, 0, 0, 0, 3), too many of 1", x.copy(1, 0, 0, 0, 3), -12);
         due("copy(0, -1, 1, 0, 1)", x.copy(0, -1, 1, 0, 1), -12);
+        due("copy(0, 3, 1, 0, 2)", x.copy(0, 3, 1, 0, 2), -12);
+        due("copy(0, 0, 1, 1, 2)", x.copy(0, 0, 1, 1, 2), -12);
         due("copy(0, 0, 1, -1, 1)", x.copy(0, 0, 1, -1, 1), -12);
         due("copy(0, 0, 1, 0, -1)", x.copy(0, 0, 1, 0, -1), -12);
         due("copy(0, 1, 1, 1, most)", x.copy(0, 1, 1, 1, MOST), -12);
@@ -879,13 +931,13 @@ public final class PromiseTest {
 
     private static void counting() {
         promise = "37";
-        SoldWithIt x = street("05;13", "o0g0l-l1");
+        SoldWithIt x = street("05;13", "l0g0o-o1");
         x.sale(0, 2);
         x.sale(1, 2);
         x.sale(7, 2);
         x.fact(0, 0);
         x.lose(0);
-        int[] due = {2, 4, 5, 8, 3, 1, 3, 2, 1};
+        int[] due = {2, 4, 5, 8, 3, 1, 3, 1, 1};
         for (int what = 0; what <= 8; what++) {
             due("count(" + what + ")", x.count(what), due[what]);
         }
