@@ -508,7 +508,7 @@ public final class PromiseTest {
      * 1, and 2 is sold to 1 as well; so 2 goes elsewhere; then 3 goes to house 2, to be kept by 2;
      * then 2 can be in house 0 again, but house 2 is sold with 2, and 3 in it, to 0: and so on.
      */
-    private static SoldWithIt chase() {
+    static SoldWithIt chase() {
         SoldWithIt x = street("30;00;20", "l-l-o-g-");
         x.sale(1, 1);
         x.sale(0, 0);
