@@ -119,6 +119,16 @@ public final class BoundaryDinnersTest extends Boundaries {
         shouldBy(x, 0, 1, 0, 0, 1);
         shouldBy(x, 1, 0, 0, 0, 1);
         shouldBy(x, 1, 1, 0, 0, 0);
+        x = street("15;15", "o-o-");
+        x.wipe(0);
+        type(x, 0, "15");
+        shouldBy(x, 0, 1);
+    }
+
+    @Says("the fewest SALES (each as above")
+    void should_1_othersHousesAreNotSoldWithOne() {
+        SoldWithIt x = street("15;73", "o1o-o-");
+        shouldBy(x, 1, 1, 2);
     }
 
     @Says("the fewest SALES (each as above")

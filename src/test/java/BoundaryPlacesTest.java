@@ -184,6 +184,18 @@ public final class BoundaryPlacesTest extends Boundaries {
         due(x.best(2, 1), 0);
     }
 
+    @Says("the places of all by which one's GAIN is greatest")
+    void placed_1_worthOfSomebodyWhoIsNotThereDoesNotCount() {
+        SoldWithIt x = street("75", "o-o-");
+        for (int p = 2; p < 8; p++) {
+            x.worth(0, p, 9);
+            x.worth(1, p, 9);
+        }
+        due(x.best(0, NONE), 0);
+        due(x.best(1, NONE), 0);
+        due(x.gain(0), 0);
+    }
+
     @Says("of like ones the least row")
     void placed_1_leastRowByPerson0First() {
         // 1 goes to 2 from house 1, or from house 0 (which is 0's) if 0 is in house 1.
@@ -258,6 +270,16 @@ public final class BoundaryPlacesTest extends Boundaries {
         due(x.rest(1), NONE);
     }
 
+    @Says("would LIKE one's KEEPER behind all SALES more")
+    void placed_2_whomNobodyBuysStaysAnywhere() {
+        SoldWithIt x = street("75", "o-o-");
+        x.like(0, 1, 5);
+        x.like(1, 0, 5);
+        due(x.rest(-2), 4);
+        due(x.rest(0), NONE);
+        due(x.rest(1), NONE);
+    }
+
     @Says("those locked in stay where they are told")
     void placed_2_lockedOnesStay() {
         SoldWithIt x = street("75;73", "l1l-l0");
@@ -280,6 +302,8 @@ public final class BoundaryPlacesTest extends Boundaries {
         SoldWithIt x = street("05;13", "");
         due(x.rest(-2), 1);
         due(x.rest(NONE), 1);
+        due(new SoldWithIt().rest(-2), 1);
+        due(new SoldWithIt().rest(NONE), 1);
     }
 
     // ---- out
