@@ -53,6 +53,61 @@ public final class BoundaryDinnersTest extends Boundaries {
         due(x.change(1, 0), 0);
     }
 
+    @Says("two unlike OWNERS would change HOUSES a and b, if to each the other one's has more VALUE")
+    void change_1_ownersWhoAreNotThere() {
+        SoldWithIt x = street("65;73", "o0o1");
+        due(x.change(0, 1), 0);
+        x.worth(6, 1, 2);
+        due(x.change(0, 1), 0);
+        x.worth(6, 1, 3);
+        due(x.change(0, 1), 1);
+        due(x.change(1, 0), 1);
+        x.worth(7, 0, -2);
+        due(x.change(0, 1), 0);
+        due(x.change(1, 0), 0);
+        x.worth(7, 0, -1);
+        due(x.change(0, 1), 1);
+        x.worth(7, 1, 1);
+        due(x.change(0, 1), 0);
+    }
+
+    @Says("if to each the other one's has more VALUE")
+    void change_1_oneOwnerWhoIsNotThere() {
+        SoldWithIt x = street("05;73", "o0o1");
+        x.worth(0, 1, 3);
+        due(x.change(0, 1), 1);
+        due(x.change(1, 0), 1);
+        x.worth(7, 1, 2);
+        due(x.change(0, 1), 0);
+        x.worth(7, 0, 1);
+        due(x.change(0, 1), 1);
+        x.worth(0, 1, 2);
+        due(x.change(0, 1), 0);
+    }
+
+    @Says("two unlike OWNERS")
+    void change_1_oneOwnerOfBothWhoIsNotThere() {
+        SoldWithIt x = street("75;73", "o0o1");
+        x.worth(7, 1, 9);
+        due(x.change(0, 1), 0);
+        due(x.change(1, 0), 0);
+    }
+
+    @Says("two unlike OWNERS would change")
+    void change_1_anOwnerWhoComesIsOneOfThemAsBefore() {
+        SoldWithIt x = street("05;13", "o0");
+        x.worth(1, 0, -3);
+        due(x.change(0, 1), 0);
+        x.worth(0, 1, 9);
+        due(x.change(0, 1), 0);
+        x.worth(1, 0, -1);
+        due(x.change(0, 1), 0);
+        type(x, 1, "o1");
+        due(x.change(0, 1), 1);
+        x.worth(1, 0, -2);
+        due(x.change(0, 1), 0);
+    }
+
     @Says("its PRICE, and WORTH of all who are in it, but oneself")
     void change_1_valueButOneself() {
         SoldWithIt x = street("05;13", "o0o1");
@@ -84,6 +139,26 @@ public final class BoundaryDinnersTest extends Boundaries {
             }
         }
         due(x.changes(), 28);
+    }
+
+    @Says("How many pairs of HOUSES with unlike OWNERS would be changed")
+    void change_2_pairsOfOwnersWhoAreNotThere() {
+        SoldWithIt x = street("45;55;65;75", "o0o1o2o3");
+        for (int a = 4; a < 8; a++) {
+            for (int p = 0; p < 4; p++) {
+                x.worth(a, p, 1);
+            }
+        }
+        due(x.changes(), 0);
+        for (int a = 4; a < 8; a++) {
+            x.worth(a, a - 4, 0);
+        }
+        due(x.changes(), 6);
+        x.worth(7, 3, 1);
+        due(x.changes(), 3);
+        long digest = x.digest();
+        x.worth(7, 3, 0);
+        due(x.digest() - digest, 3);
     }
 
     @Says("pairs of HOUSES with unlike OWNERS")

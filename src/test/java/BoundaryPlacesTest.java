@@ -413,6 +413,30 @@ public final class BoundaryPlacesTest extends Boundaries {
         due(x.worth(7, 0, 0), -3);
     }
 
+    @Says("WORTH to one (0 to 7) of another one (0 to 7)")
+    void promise15_1_toAnOwnerWhoIsNotThere() {
+        SoldWithIt x = street("75;04", "o-o0");
+        due(x.change(0, 1), 0);
+        due(x.worth(7, 1, -2), 0);
+        due(x.change(0, 1), 1);
+        due(x.worth(7, 1, 0), -2);
+        due(x.change(0, 1), 0);
+    }
+
+    @Says("WORTH to one (0 to 7) of another one (0 to 7)")
+    void promise15_1_toldAheadOfThePeopleAndTheStreet() {
+        SoldWithIt x = new SoldWithIt();
+        x.worth(1, 0, 4);
+        x.worth(0, 7, -4);
+        type(x, 0, "05;13");
+        type(x, 1, "o1o-o-o-o-o-o-o1");
+        due(x.value(1, 1), 7);
+        due(x.value(1, 0), -1);
+        x.wipe(1);
+        due(x.worth(1, 0, 4), 4);
+        due(x.worth(0, 7, -4), -4);
+    }
+
     @Says("what it was, as any number")
     void promise15_1_whatItWasMayLookLikeARefusal() {
         SoldWithIt x = new SoldWithIt();
